@@ -61,6 +61,8 @@ public final class BirdBridgePromises {
         century();
         keepAndBack();
         count();
+        allEight();
+        numbersFarOff();
         System.out.println(wrong == 0 ? "all promises hold" : wrong + " answers are not as due");
         if (wrong != 0) {
             System.exit(1);
@@ -708,5 +710,64 @@ public final class BirdBridgePromises {
         }
         due("count 11", x.count(11), BAD);
         due("count -1", x.count(-1), BAD);
+    }
+
+    /** The longest bridge that there can be, and one that all birds together do not make whole. */
+    private static void allEight() {
+        BirdBridge x = laid(many("b60,1,0,1;", 8) + "r8;l8,0;", 7, 6, 5, 4, 3, 2, 1, 0);
+        due("eight: fewest", x.fewest(-1), 8);
+        for (int k = 0; k < 8; k++) {
+            due("eight: fewest " + k, x.fewest(k), k);
+        }
+        due("eight: over", x.over(0), NONE);
+        due("eight: mend", x.mend(7), NONE);
+        due("eight: calls", x.calls(-1), 8);
+        due("eight: the last called", x.calls(7), 7);
+        due("eight: second", x.second(40), 0);
+        due("eight: years", x.years(), NONE);
+        due("eight: century", x.century(9999, 90, 0), 90);
+        due("eight: seen", x.seen(7, 2), 1);
+        due("eight: stood", x.stood(2), 128);
+        for (int place = 0; place <= 8; place++) {
+            due("eight: step", x.step(), place);
+        }
+        for (int b = 0; b < 8; b++) {
+            due("eight: tired", x.bird(b, 4), 1);
+        }
+        due("eight: power", x.span(7, 2), 59);
+        BirdBridge broad = laid(many("b60,1,0,1;", 8) + "r9;l8,0;", 0, 1, 2, 3, 4, 5, 6, 7);
+        due("too broad: join", broad.join(0), NO);
+        due("too broad: step", broad.step(), NO);
+        due("too broad: fewest", broad.fewest(-1), NONE);
+        due("too broad: places", broad.count(2), 8);
+        due("too broad: leave", broad.leave(), 7);
+        BirdBridge seven = laid(many("b60,1,0,1;", 8) + "r7;l8,0;");
+        due("seven: fewest", seven.fewest(-1), 7);
+        due("seven: not so long", seven.fewest(7), NONE);
+    }
+
+    private static void numbersFarOff() {
+        BirdBridge whole = laid("b60,1,0,0;b60,1,0,0;b60,1,0,0;r2;w3;l8,0;", 0, 1);
+        whole.step();
+        BirdBridge broken = laid("b1,3,0,0;r1;", 0);
+        broken.step();
+        int[] far = {Integer.MIN_VALUE, Integer.MIN_VALUE + 1, -1000, -5, 1000000, Integer.MAX_VALUE - 1, Integer.MAX_VALUE};
+        for (BirdBridge x : new BirdBridge[] {new BirdBridge(), whole, broken}) {
+            int[] ahead = new int[11];
+            for (int what = 0; what < ahead.length; what++) {
+                ahead[what] = x.count(what);
+            }
+            for (int n : far) {
+                int[] answers = {x.write(n), x.bird(n, 0), x.bird(0, n), x.wind(n), x.span(n, 0), x.span(0, n), x.join(n),
+                    x.year(n), x.over(n), x.fewest(n), x.mend(n), x.calls(n), x.second(n), x.seen(n, 0), x.seen(0, n),
+                    x.stood(n), x.rain(n), x.century(n, 1, 0), x.century(0, n, 0), x.century(0, 1, n), x.count(n)};
+                for (int i = 0; i < answers.length; i++) {
+                    due("far off: call " + i + " with " + n, answers[i], BAD);
+                }
+            }
+            for (int what = 0; what < ahead.length; what++) {
+                due("far off: nothing changes, count " + what, x.count(what), ahead[what]);
+            }
+        }
     }
 }
