@@ -781,15 +781,17 @@ public final class BirdBridge {
 
         int powerAt(int k) {
             int bird = birdAt(k);
-            int power = flock.strengthOf(bird) - tiredOf(bird);
-            int kind = flock.kindOf(bird);
-            if (kind == CROW && k > 0 && k < size - 1) {
-                return power / 2;
+            boolean amid = k > 0 && k < size - 1;
+            boolean besidePaired = kindAt(k - 1) == PAIRED || kindAt(k + 1) == PAIRED;
+            return powerOf(flock.kindOf(bird), flock.strengthOf(bird) - tiredOf(bird), amid, besidePaired);
+        }
+
+        /** POWER of one that has so much of its STRENGTH left. */
+        static int powerOf(int kind, int left, boolean amid, boolean besidePaired) {
+            if (kind == CROW && amid) {
+                return left / 2;
             }
-            if (kind == PAIRED && (kindAt(k - 1) == PAIRED || kindAt(k + 1) == PAIRED)) {
-                return power + 5;
-            }
-            return power;
+            return kind == PAIRED && besidePaired ? left + 5 : left;
         }
 
         void unload() {
@@ -805,14 +807,17 @@ public final class BirdBridge {
                 return;
             }
             for (int k = 0; k < size; k++) {
-                int apart = Math.abs(k - under);
-                if (apart == 0) {
-                    borne[k] += load;
-                } else if (apart == 1) {
-                    borne[k] += load / 2;
-                } else if (apart == 2) {
-                    borne[k] += load / 4;
-                }
+                borne[k] += partOf(load, Math.abs(k - under));
+            }
+        }
+
+        /** What one bears that is so many BIRDS apart from the one that spans the place. */
+        static int partOf(int load, int apart) {
+            switch (apart) {
+                case 0: return load;
+                case 1: return load / 2;
+                case 2: return load / 4;
+                default: return 0;
             }
         }
 
@@ -846,12 +851,16 @@ public final class BirdBridge {
 
         void tire() {
             for (int k = 0; k < size; k++) {
-                int by = borne[k] / 8;
                 int bird = order[k];
                 if (bird >= 0 && bird < MOST_BIRDS) {
-                    tired[bird] += flock.kindOf(bird) == FLEDGLING ? 2 * by : by;
+                    tired[bird] += tiredBy(flock.kindOf(bird), borne[k]);
                 }
             }
+        }
+
+        /** By what a minute tires one that bears so much. */
+        static int tiredBy(int kind, int bears) {
+            return kind == FLEDGLING ? bears / 8 * 2 : bears / 8;
         }
 
         /** She goes from place first on, being there in that minute: where it BREAKS, or end. */
@@ -1005,6 +1014,8 @@ public final class BirdBridge {
         private final Flock flock;
         private final Bridge tried;
         private final int[] found = new int[MOST_BIRDS];
+        // by the BIRDS that stand already (bits): with fewer more than this it is never WHOLE and holds
+        private final int[] leastMore = new int[1 << MOST_BIRDS];
         private int foundSize = NOTHING_YET;
         // the answer hangs on what is LAID and this alone, so it is looked for once
         private int foundWeight = NO_WEIGHT;
@@ -1025,7 +1036,8 @@ public final class BirdBridge {
             foundWeight = weight;
             foundSize = NOTHING_YET;
             tried.clear();
-            extend(0, weight);
+            findLeastMore(weight);
+            extend(0, 0, weight);
         }
 
         int foundSize() {
@@ -1036,10 +1048,55 @@ public final class BirdBridge {
             return foundSize == NOTHING_YET || k < 0 || k >= foundSize ? NONE : found[k];
         }
 
-        /** Tries all that may JOIN, the lowest first, while that gives fewer than were found. */
-        private void extend(int depth, int weight) {
-            for (int b = 0; b < flock.birds() && depth + 1 < foundSize; b++) {
-                if (!tried.mayJoin(b)) {
+        private void findLeastMore(int weight) {
+            for (int standing = leastMore.length - 1; standing >= 0; standing--) {
+                int first = placesOf(standing);
+                leastMore[standing] = first >= flock.width() ? 0 : leastMoreBehind(standing, first, weight);
+            }
+        }
+
+        private int placesOf(int standing) {
+            int places = 0;
+            for (int b = 0; b < flock.birds(); b++) {
+                places += (standing >> b & 1) * flock.lengthOf(b);
+            }
+            return places;
+        }
+
+        private int leastMoreBehind(int standing, int first, int weight) {
+            int least = NOTHING_YET;
+            for (int b = 0; b < flock.birds(); b++) {
+                int longer = standing | 1 << b;
+                if (longer != standing && longer < leastMore.length && couldBear(b, first, weight)) {
+                    least = Math.min(least, leastMore[longer] + 1);
+                }
+            }
+            return least;
+        }
+
+        /** False, if a BIRD with this first place does not hold, whoever else is in the bridge. */
+        private boolean couldBear(int b, int first, int weight) {
+            int kind = flock.kindOf(b);
+            int end = first + flock.lengthOf(b);
+            boolean amid = first > 0 && end < flock.width();
+            int left = flock.strengthOf(b);
+            for (int place = Math.max(0, first - 2); place < end + 2 && place < flock.width(); place++) {
+                // one that spans a place so far off is as many BIRDS apart at most
+                int apart = place < first ? first - place : Math.max(0, place - end + 1);
+                int bears = Bridge.partOf(weight + flock.windIn(place), apart);
+                if (bears > Bridge.powerOf(kind, left, amid, true)) {
+                    return false;
+                }
+                left -= Bridge.tiredBy(kind, bears);
+            }
+            return true;
+        }
+
+        /** Tries all that may JOIN, the lowest first, while that could give fewer than were found. */
+        private void extend(int depth, int standing, int weight) {
+            for (int b = 0; b < flock.birds() && depth < MOST_BIRDS; b++) {
+                int longer = standing | 1 << b;
+                if (longer >= leastMore.length || depth + 1 + leastMore[longer] >= foundSize || !tried.mayJoin(b)) {
                     continue;
                 }
                 tried.append(b);
@@ -1053,7 +1110,7 @@ public final class BirdBridge {
                 } else if (holds || flock.kindOf(b) == PAIRED) {
                     // what breaks now breaks with more behind it too, but for a PAIRED
                     // last one, which may yet get another beside it
-                    extend(depth + 1, weight);
+                    extend(depth + 1, longer, weight);
                 }
                 tried.dropLast();
             }
