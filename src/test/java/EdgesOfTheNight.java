@@ -154,6 +154,13 @@ public final class EdgesOfTheNight {
         Sentences.tell(anew, none);
         anew.lay();
         the.due("the crows were of another river", anew.join(0), 1);
+        for (String alone : new String[] {"b60,1,1,0;b60,1,0,0;b60,1,0,0;r6;", "b60,1,0,0;b60,1,1,0;b60,1,0,0;r6;",
+            "b60,1,0,0;b60,1,0,0;b60,1,1,0;r6;"}) {
+            for (int b = 0; b < 3; b++) {
+                boolean isCrow = Sentences.laid(alone).bird(b, 2) == 1;
+                the.due("bird " + b + " of " + alone, Sentences.laid(alone).join(b), isCrow ? 1 : NO);
+            }
+        }
     }
 
     private static void leaving() {
@@ -340,6 +347,10 @@ public final class EdgesOfTheNight {
         the.due("tired by the only place alone", narrow.bird(0, 4), 1);
         the.due("a minute all the same", narrow.count(4), 2);
         the.due("not BROKEN by that wind", narrow.count(6), 0);
+        BirdBridge longer = Sentences.laid("b12,3,0,0;r1;w0;w20;l12,0;", 0);
+        the.row("step, under one that spans the bank too", n -> longer.step(), 0, 0, 1, NO);
+        the.due("tired by the only place alone", longer.bird(0, 4), 1);
+        the.due("nothing borne on the bank", longer.span(0, 3), 0);
         BirdBridge broad = Sentences.laid(Sentences.many("b60,3,0,0;", 3) + "r9;l1,0;", 0, 1, 2);
         the.row("step", n -> broad.step(), 0, 0, 1, 2, 3, 4, 5, 6, 7, 8, 9, NO);
         the.due("the minute", broad.count(4), 10);

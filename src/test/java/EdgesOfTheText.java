@@ -98,6 +98,11 @@ public final class EdgesOfTheText {
         half.write('b');
         half.write('9');
         the.due("no old letter comes back", half.fault(), 0);
+        BirdBridge end = Sentences.told("r5;");
+        end.wipe();
+        end.write('r');
+        end.write('5');
+        the.due("nor the ; that ended it", end.fault(), 0);
         BirdBridge laid = Sentences.laid("b9,1,0,0;r1;", 0);
         laid.wipe();
         the.due("what is laid stays", laid.count(0) + laid.count(1) + laid.count(3), 3);

@@ -138,6 +138,13 @@ public final class EdgesOfWhatWas {
         x.join(1);
         x.join(0);
         the.due("there is one again", x.stood(1), 1);
+        BirdBridge untired = Sentences.laid("b60,1,0,0;b60,1,0,0;b60,2,0,0;r2;l1,0;", 0, 1);
+        untired.seen(1, 0);
+        the.due("the second tired by 0", untired.stood(1), 3);
+        untired.leave();
+        untired.leave();
+        untired.join(2);
+        the.due("no second is not one tired by 0", untired.stood(1), 0);
         BirdBridge other = Sentences.laid("b60,1,0,0;b60,1,2,0;r1;l8,0;", 0);
         other.seen(0, 1);
         the.due("a magpie tired by 1", other.stood(1), 1);
@@ -252,7 +259,7 @@ public final class EdgesOfWhatWas {
         the.says("WIND of minute k (0 first) of YEAR y being DRAW modulo 21");
         for (int z : new int[] {0, 1, 77, 5000, 9998, 9999}) {
             for (int strength = 12; strength <= 33; strength += 3) {
-                BirdBridge narrow = Sentences.laid("b" + strength + ",1,0,0;r1;w20;l12,0;", 0);
+                BirdBridge narrow = Sentences.laid("b" + strength + ",3,0,0;r1;w20;l12,0;", 0);
                 for (int n : new int[] {1, 2, 89, 90}) {
                     int over = 0;
                     int first = NONE;

@@ -64,6 +64,11 @@ public final class EdgesOfWhatWouldBe {
             the.looks("place, " + steps + " steps on", NONE, Sentences.walk(steps, text, 0, 1), x -> x.over(1));
         }
         the.due("at the last place no wind breaks it", Sentences.walk(1, "b12,1,0,0;r1;w0;w20;l12,0;", 0).get().over(0), NONE);
+        String bank = "b12,3,0,0;b12,3,0,0;r1;w0;w20;l12,0;";
+        the.due("nor when the last one spans the bank too", Sentences.night(bank, 0).get().over(0), NONE);
+        the.due("MEND", Sentences.night(bank, 0).get().mend(0), 1);
+        the.due("YEARS", Sentences.night(bank, 0).get().years(), NONE);
+        the.due("FEWEST", Sentences.night(bank, 0).get().fewest(-1), 1);
         BirdBridge weak = Sentences.walked(Sentences.laid("b60,1,0,0;b1,1,0,0;r1;l8,0;", 0), 2);
         weak.leave();
         weak.join(1);
@@ -135,6 +140,18 @@ public final class EdgesOfWhatWouldBe {
         the.row("the weak one only at first", swap::fewest, -1, 2, 0, 1, NONE);
         BirdBridge last = Sentences.laid("b10,1,0,0;b20,1,0,0;b20,1,0,0;r2;w2;w0;l9,0;");
         the.row("the weak one only at last", last::fewest, -1, 2, 1, 0, NONE);
+        the.says("by which she comes over (BIRDS just strong enough)");
+        BirdBridge just = Sentences.laid("b60,1,0,0;b12,1,0,0;r2;w0;w0;w20;l12,0;");
+        the.row("12 on 12 at the last place", just::fewest, -1, 2, 0, 1);
+        BirdBridge ahead = Sentences.laid("b60,1,0,0;b13,1,0,0;r2;w8;w0;l12,0;");
+        the.row("a wind ahead of it", ahead::fewest, -1, 2, 0, 1);
+        BirdBridge behind = Sentences.laid("b60,1,0,0;b13,1,0,0;b60,1,0,0;r3;w0;w0;w8;l12,0;");
+        the.row("a wind behind it", behind::fewest, -1, 3, 0, 1, 2);
+        BirdBridge heavy = Sentences.laid("b60,1,0,0;b42,1,0,0;r2;l40,0;");
+        the.row("40 on 40", heavy::fewest, -1, 2, 0, 1);
+        BirdBridge crow = Sentences.laid("b60,1,1,0;b60,1,0,0;b26,1,1,0;b60,1,0,0;r4;l12,0;");
+        the.row("a crow amid that is tired by nothing ahead: 12 on 13", crow::fewest, -1, 4, 0, 1, 2, 3);
+        the.says("of several the first (by who is first, then second, ..)");
         BirdBridge three = Sentences.laid("b20,1,0,0;b60,2,0,0;b60,2,0,0;b20,1,0,0;r5;l8,0;");
         the.row("by who is second", three::fewest, -1, 3, 0, 1, 2, NONE);
     }
@@ -273,6 +290,8 @@ public final class EdgesOfWhatWouldBe {
         the.due("eight that are there at once", near.calls(-1), 7);
         BirdBridge mixed = Sentences.laid("b9,1,0,0;b9,1,0,40;b9,1,0,5;b9,1,0,40;b9,1,0,6;r9;", 0, 3, 2, 1, 4);
         the.row("mixed", mixed::calls, -1, 41, 1, 3, 4, 2, 0, BAD);
+        BirdBridge first = Sentences.laid("b9,1,0,9;b9,1,0,8;b9,1,0,7;r9;", 0, 1, 2);
+        the.row("as they joined", first::calls, -1, 9, 0, 1, 2, BAD);
         BirdBridge later = Sentences.laid("b9,1,0,3;b9,1,0,3;b9,1,0,2;b9,1,0,2;r9;", 3, 2, 1, 0);
         the.row("the last called is the last there", later::calls, -1, 5, 0, 1, 2, 3, BAD);
     }
